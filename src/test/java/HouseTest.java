@@ -5,6 +5,7 @@ public final class HouseTest {
     public static void main(String[] args) {
         newObject();
         house();
+        nobodyStays();
         guest();
         duty();
         typeAndClear();
@@ -60,6 +61,31 @@ public final class HouseTest {
         check.due("guest() is the first again", x.guest(3, 7, 0), 0);
         check.due("of(0, 3) at first", x.of(0, 3), -1);
         check.due("of(0, 4) at first", x.of(0, 4), 10);
+    }
+
+    /** Those who were there before have no part in a house of fewer. */
+    private static void nobodyStays() {
+        for (int n = 0; n < 7; n++) {
+            GuestStaff x = new GuestStaff();
+            for (int g = 0; g < 7; g++) {
+                x.guest(2, 0, 255);
+            }
+            for (int g = 0; g < 7; g++) {
+                x.duty(g, g == n ? (n + 1) % 7 : n);
+            }
+            x.house();
+            for (int g = 0; g < n; g++) {
+                x.guest(0, 0, 0);
+            }
+            check.due("lone() of " + n, x.lone(), (1 << n) - 1);
+            check.due("count(3) of " + n, x.count(3), 0);
+            check.due("hour(3) of " + n, x.hour(3), 0);
+            check.due("all(-1) of " + n, x.all(-1), n == 0 ? 1 : 0);
+            check.due("smallest() of " + n, x.smallest(), -1);
+            check.due("moods(5) of " + n, x.moods(5), 1);
+            check.due("part(0) of " + n, x.part(0), 0);
+            check.due("hours(1, 60) of " + n, x.hours(1, 60), 0);
+        }
     }
 
     private static void guest() {
@@ -237,6 +263,7 @@ public final class HouseTest {
         fault("house;guest 0 8;", 14);
         fault("house;guest 0 0 1 8;", 18);
         fault("house;guest 0 0 1 99", 18);
+        fault("house;guest 0 0 09;", 16);
         fault("house;guest 000 0;", 12);
         fault("house;guest 0 007;", 14);
         fault("house;guest 0 0 001;", 16);

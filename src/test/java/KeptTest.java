@@ -100,6 +100,23 @@ public final class KeptTest {
         x.from(0);
         check.due("count(5)", x.count(5), 4);
         check.due("of(1, 3)", x.of(1, 3), 0);
+        // Other duties that are remembered meanwhile have no part in it, whichever slot they fall into.
+        for (int shift = 0; shift < 8; shift++) {
+            GuestStaff y = Check.houseOf("house;guest 0 0 0;guest 3 0 0;guest 1 0 0;");
+            for (int i = 0; i < shift; i++) {
+                y.hour(1);
+            }
+            y.duty(0, 1);
+            y.duty(0, 2);
+            y.image(1);
+            y.duty(0, 1);
+            y.hour(60);
+            y.from(1);
+            check.due("undo()", y.undo(), shift);
+            check.due("of(0, 3)", y.of(0, 3), 1);
+            check.due("undo()", y.undo(), shift);
+            check.due("of(0, 3)", y.of(0, 3), -1);
+        }
         // An image is not undone.
         x.house();
         check.due("undo() behind house", x.undo(), -3);
