@@ -43,6 +43,17 @@ final class Check {
         }
     }
 
+    void fraction(String call, GuestStaff x, long above, long below) {
+        due("part(0) behind " + call, x.part(0), above);
+        due("part(1) behind " + call, x.part(1), below);
+    }
+
+    void counts(String call, GuestStaff x, int... due) {
+        for (int what = 0; what < due.length; what++) {
+            due("count(" + what + ") behind " + call, x.count(what), due[what]);
+        }
+    }
+
     static void write(GuestStaff x, String text) {
         x.clear();
         for (int i = 0; i < text.length(); i++) {
@@ -58,7 +69,9 @@ final class Check {
     /** A new object with the house that the text tells, and no text left. */
     static GuestStaff houseOf(String text) {
         GuestStaff x = new GuestStaff();
-        read(x, text);
+        if (text.length() > 150 || read(x, text) < 1) {
+            throw new IllegalArgumentException("no house is told by '" + text + "'");
+        }
         x.clear();
         return x;
     }

@@ -1,4 +1,4 @@
-/** Promises 1 to 7: a new object, house, guest, duty, type, clear, read. */
+/** Promises 1 to 7: a new object, house, guest, duty, type, clear, read; FaultsTest has the texts that are refused. */
 public final class HouseTest {
     private static final Check check = new Check("HouseTest");
 
@@ -11,8 +11,6 @@ public final class HouseTest {
         typeAndClear();
         readGood();
         readTakesThePlace();
-        readFaults();
-        faultChangesNothing();
         check.finish();
     }
 
@@ -212,98 +210,5 @@ public final class HouseTest {
         check.due("from(0)", x.from(0), 1);
         check.due("of(1, 3) of the image", x.of(1, 3), 0);
         check.due("count(6) stays", x.count(6), 41);
-    }
-
-    private static void fault(String text, int place) {
-        GuestStaff x = new GuestStaff();
-        check.due("read of '" + text + "'", Check.read(x, text), -10 - place);
-    }
-
-    private static void readFaults() {
-        // The text ends too early.
-        fault("", 0);
-        fault("   ", 3);
-        fault("house", 5);
-        fault("house ", 6);
-        fault("house;guest", 11);
-        fault("house;guest 0", 13);
-        fault("house;guest 0 0", 15);
-        fault("house;guest 0 0 1 ", 18);
-        fault("house;guest 0 0;guest 0 0;duty 0 1", 34);
-        fault("house;guest 0 0;guest 0 0;duty 0", 32);
-        fault("house;guest 0 0;guest 0 0;duty", 30);
-        // A word that is none, anything ahead of house, house again.
-        fault("hous", 0);
-        fault(" houses;", 1);
-        fault("guest 0 0;", 0);
-        fault(";house;", 0);
-        fault("1 house;", 0);
-        fault("house;house;", 6);
-        fault("house;guest 0 0; house;", 17);
-        fault("house;gues", 6);
-        fault("house;guests 0 0;", 6);
-        fault("house;dutyguest", 6);
-        fault("House;", 0);
-        fault("house;Guest 0 0;", 6);
-        // A token that can not stand there.
-        fault("house;;", 6);
-        fault("house 1;", 6);
-        fault("house house;", 6);
-        fault("house;1;", 6);
-        fault("house;guest;", 11);
-        fault("house;guest 0;", 13);
-        fault("house;guest duty", 12);
-        fault("house;guest 0 0 duty", 16);
-        fault("house;guest 0 0;guest 0 0;duty 0 1 0;", 35);
-        fault("house;guest 0 0;guest 0 0;duty 0;", 32);
-        fault("house;guest 0 0;guest 0 0;duty;", 30);
-        // A number not as told.
-        fault("house;guest 6 0;", 12);
-        fault("house;guest 10 0;", 12);
-        fault("house;guest 0 8;", 14);
-        fault("house;guest 0 0 1 8;", 18);
-        fault("house;guest 0 0 1 99", 18);
-        fault("house;guest 0 0 09;", 16);
-        fault("house;guest 000 0;", 12);
-        fault("house;guest 0 007;", 14);
-        fault("house;guest 0 0 001;", 16);
-        fault("house;guest 0 0 00000000000000000000000000000000000000000;", 16);
-        fault("house;guest 0 0 4294967297;", 16);
-        fault("house;guest 0 0;guest 0 0;duty 000 1;", 31);
-        // A guest of a duty that is not there yet; both alike.
-        fault("house;duty 0 1;", 11);
-        fault("house;guest 0 0;duty 0 1;guest 0 0;", 23);
-        fault("house;guest 0 0;duty 1 0;guest 0 0;", 21);
-        fault("house;guest 0 0;guest 0 0;duty 1 01;", 33);
-        fault("house;guest 0 0;guest 0 0;duty 7 1;", 31);
-        // An 8th guest at its word.
-        String seven = "house;guest 0 0;guest 0 0;guest 0 0;guest 0 0;guest 0 0;guest 0 0;guest 0 0;";
-        fault(seven + " guest 9 9;", seven.length() + 1);
-        // A byte that begins no token.
-        fault("house-;", 5);
-        fault("house;-", 6);
-        fault("house;guest 0 -1;", 14);
-        fault("house\t;", 5);
-        fault("house;guest 0 0\n;", 15);
-        fault("house;\0", 6);
-        fault("house;" + (char) 127, 6);
-        fault("house;guest 0 0 `", 16);
-        fault("house;guest 0 0 {", 16);
-        fault("house;guest 0 0 /", 16);
-        fault("house;guest 0 0 :", 16);
-        fault("house;guest 0 0!", 15);
-    }
-
-    private static void faultChangesNothing() {
-        GuestStaff x = Check.houseOf("house;guest 0 1 0 1;guest 2 0 1;duty 0 1;");
-        x.hour(2);
-        x.note(1, 1, 1, 1, 1);
-        x.moods(3);
-        Check.write(x, "house;guest 5 5;duty 0 0;");
-        long before = x.digest();
-        check.refused("read", x, before, x.read(), -33);
-        check.due("undo()", x.undo(), 1);
-        // A FAULT is no refusal as BAD, NO, FULL.
-        check.status(x, 0, 0, 0);
     }
 }
