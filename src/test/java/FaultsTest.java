@@ -152,10 +152,16 @@ public final class FaultsTest {
     private static void wordThatIsNone() {
         fault("hous;", 0);
         fault("houses;", 0);
+        fault("mouse;", 0);
+        fault("housf;", 0);
         fault("a;", 0);
         fault("house;gues 0 0;", 6);
         fault("house;guests 0 0;", 6);
+        fault("house;quest 0 0;", 6);
+        fault("house;guess 0 0;", 6);
         fault("house; z;", 7);
+        fault(TWO + "buty 0 1;", 26);
+        fault(TWO + "duts 0 1;", 26);
         fault(TWO + "dut 0 1;", 26);
         fault(TWO + "dutys 0 1;", 26);
         fault("house;guest a 0;", 12);
@@ -208,6 +214,9 @@ public final class FaultsTest {
         good("house;guest 0 0 7;", 2);
         fault("house;guest 0 0 8;", 16);
         fault("house;guest 0 0 7 08;", 18);
+        fault("house;guest 0 0 7 09;", 18);
+        fault("house;guest 0 0 7 19;", 18);
+        fault("house;guest 0 0 7 90;", 18);
         fault("house;guest 0 0 16", 16);
         fault("house;1;", 6);
     }

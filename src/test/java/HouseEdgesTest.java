@@ -30,6 +30,10 @@ public final class HouseEdgesTest {
         undoOfAHourIsNotOfTwo();
         behindAGuestNoneMayBe();
         lateByFour();
+        canServeByBits();
+        alike();
+        workOfTheFirstAndTheLast();
+        nobodyOfBefore();
         theLastCallOf512();
         check.finish();
     }
@@ -375,6 +379,70 @@ public final class HouseEdgesTest {
             check.due("of(0, 5)", x.of(0, 5), 1);
             check.due("of(0, 4): a tip in each hour", x.of(0, 4), 10 - hour);
             x.hour(1);
+        }
+    }
+
+    /** "Whether g CAN SERVE h (1, 0)": each service as bits, the first, the last, none and all. */
+    private static void canServeByBits() {
+        for (int s = 0; s < 8; s++) {
+            GuestStaff x = new GuestStaff();
+            x.guest(0, s, 0);
+            x.guest(0, 0, 1 << s);
+            x.guest(0, 0, 255 - (1 << s));
+            x.guest(0, 0, 255);
+            check.due("can(1, 0) by " + s, x.can(1, 0), 1);
+            check.due("can(2, 0) by " + s, x.can(2, 0), 0);
+            check.due("can(3, 0) by " + s, x.can(3, 0), 1);
+            check.due("can(0, 1): none", x.can(0, 1), 0);
+            check.due("can(3, 1): no duty is needed", x.can(3, 1), 1);
+            check.status(x, 0, 0, 0);
+        }
+    }
+
+    /** "BAD: alike, too." */
+    private static void alike() {
+        for (int g = 0; g < 7; g++) {
+            int same = g;
+            twins.changeNothing("can(" + g + ", " + g + ")", Houses.EVERYBODY, x -> x.can(same, same), -2, Twins.BAD);
+        }
+        twins.changeNothing("can(0, 0)", Houses.NOBODY, x -> x.can(0, 0), -2, Twins.BAD);
+    }
+
+    /** How much work SERVICES 0 and 7 are, whether one can do them or not. */
+    private static void workOfTheFirstAndTheLast() {
+        int[] first = {2, 1, 2, 2, 1, 1};
+        int[] last = {2, 1, 9, 2, 1, 4};
+        GuestStaff x = new GuestStaff();
+        for (int kind = 0; kind < 6; kind++) {
+            x.guest(kind, 0, kind % 2 * 255);
+            check.due("work(" + kind + ", 0)", x.work(kind, 0), first[kind]);
+            check.due("work(" + kind + ", 7)", x.work(kind, 7), last[kind]);
+        }
+        check.due("work(5, 1): half of 3, cut", x.work(5, 1), 1);
+    }
+
+    /** Behind seven guests, a house of fewer: those who were there have no part in anything. */
+    private static void nobodyOfBefore() {
+        for (int n = 0; n < 7; n++) {
+            GuestStaff x = new GuestStaff();
+            for (int g = 0; g < 7; g++) {
+                x.guest(2, 0, 255);
+            }
+            for (int g = 0; g < 7; g++) {
+                x.duty(g, g == n ? (n + 1) % 7 : n);
+            }
+            x.house();
+            GuestStaff y = new GuestStaff();
+            for (int g = 0; g < n; g++) {
+                x.guest(g % 6, g, 255);
+                y.guest(g % 6, g, 255);
+            }
+            x.hour(5);
+            y.hour(5);
+            x.moods(10);
+            y.moods(10);
+            check.due("takeIn(255) of " + n, x.takeIn(255), y.takeIn(255));
+            check.holds("a house of " + n + " is as if it were the first", Twins.tell(x).equals(Twins.tell(y)));
         }
     }
 

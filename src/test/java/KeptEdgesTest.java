@@ -67,9 +67,11 @@ public final class KeptEdgesTest {
                 long before = x.digest();
                 check.due("image(" + i + ") of " + house, x.image(i), 1);
                 x.hour(60);
-                x.forget();
                 x.house();
                 x.guest(5, 5, 5);
+                for (int k = 0; k < 6; k++) {
+                    x.note(0, 5, 5, 5, 5);
+                }
                 check.due("from(" + i + ") of " + house, x.from(i), 1);
                 check.due("digest() of " + house, x.digest(), before);
             }
@@ -150,6 +152,7 @@ public final class KeptEdgesTest {
             }
             x.image(0);
             x.duty(1, -1);
+            x.duty(0, 1);
             x.hour(20);
             x.from(0);
             check.due("count(5) of " + n, x.count(5), Math.min(n, 8));
@@ -157,6 +160,8 @@ public final class KeptEdgesTest {
                 check.due("undo() of " + n, x.undo(), hour);
                 check.due("count(2)", x.count(2), hour / 2 * 8 + hour % 2 * 3);
                 check.due("of(1, 3)", x.of(1, 3), 0);
+                check.due("of(0, 4)", x.of(0, 4), Math.max(10 - hour, 0));
+                check.due("of(1, 4)", x.of(1, 4), Math.min(10 + hour, 20));
             }
             check.due("undo() of " + n + ", no more", x.undo(), -3);
             x.from(0);
